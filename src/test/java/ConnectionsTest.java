@@ -11,6 +11,7 @@ public final class ConnectionsTest {
         promise4OpenReplacesAnEntryUnderLoad();
         promise4OpenRefusals();
         promise5AcceptByEntry();
+        promise5AcceptByEntryLeavesTheOthers();
         promise5AcceptChecksInOrder();
         promise5AcceptStale();
         promise5AcceptUnsolved();
@@ -145,6 +146,25 @@ public final class ConnectionsTest {
         Expect.that("entry removed", s.entryAge(5, 5), -1);
         Expect.that("the other entry stays", s.entryAge(6, 0), 0);
         Expect.that("one entry", s.halfOpen(), 1);
+    }
+
+    private static void promise5AcceptByEntryLeavesTheOthers() {
+        for (int removed = 0; removed < 4; removed++) {
+            CookieServer s = new CookieServer();
+            int[] cookies = new int[4];
+            for (int i = 0; i < 4; i++) {
+                cookies[i] = s.open(i, i, 64 << i);
+                s.advance(1);
+            }
+            Expect.holds("accept", s.accept(removed, removed, cookies[removed], 0) > 0);
+            Expect.that("three left", s.halfOpen(), 3);
+            for (int i = 0; i < 4; i++) {
+                Expect.that("age of entry " + i, s.entryAge(i, i), i == removed ? -1 : 4 - i);
+                Expect.holds("accept", i == removed || s.accept(i, i, cookies[i], 0) > 0);
+            }
+            Expect.that("all by their entries", s.work(), 0);
+            Expect.that("none left", s.halfOpen(), 0);
+        }
     }
 
     private static void promise5AcceptChecksInOrder() {

@@ -9,6 +9,8 @@ public final class ServiceTest {
         promise20ServeForgetsTheCreditOfAnEmptyQueue();
         promise20ServeNothing();
         promise20ServeGrantOutlivesTheQueue();
+        promise20ServeGrantIsUndone();
+        promise20ServeAfterAQueueWasEmptied();
         promise20ServeFullQueues();
         promise20ServeRefusals();
         promises21To23Refusals();
@@ -166,6 +168,33 @@ public final class ServiceTest {
         Expect.that("client 0 gets credit in the next round", s.credit(0), 4);
     }
 
+    private static void promise20ServeGrantIsUndone() {
+        CookieServer s = connected(0);
+        s.request(0, 4);
+        s.serve(0);
+        s.undo();
+        Expect.that("no credit", s.credit(0), 0);
+        s.serve(0);
+        Expect.that("it is given after undo", s.credit(0), 4);
+        s.serve(4);
+        s.undo();
+        s.serve(0);
+        Expect.that("undo knows that it was given", s.credit(0), 4);
+    }
+
+    private static void promise20ServeAfterAQueueWasEmptied() {
+        CookieServer s = connected(1, 2, 3);
+        s.request(1, 9);
+        s.request(2, 1);
+        s.close(1, 0);
+        Expect.that("the only request left", s.serve(200), 1);
+        s.request(2, 1);
+        s.request(3, 1);
+        Expect.that("the pointer stands behind client 2", s.serve(1), 1);
+        Expect.that("so client 3 was first", s.served(3), 1);
+        Expect.that("a closed client is not served", s.served(1), 0);
+    }
+
     private static void promise20ServeFullQueues() {
         CookieServer s = connected(0, 1, 2, 3, 4, 5, 6, 7, 8, 15);
         for (int client = 0; client < 10; client++) {
@@ -246,7 +275,8 @@ public final class ServiceTest {
     private static void promise24ShareBits() {
         CookieServer s = connected(0, 3, 15);
         Expect.that("nothing served", s.shareBits(3), Float.floatToIntBits(0.0f));
-        s.request(3, 9);
+        s.request(3, 1);
+        Expect.that("still nothing served", s.shareBits(3), Float.floatToIntBits(0.0f));
         s.serve(200);
         Expect.that("the only one", s.shareBits(3), Float.floatToIntBits(1.0f));
         Expect.that("another one", s.shareBits(0), Float.floatToIntBits(0.0f));

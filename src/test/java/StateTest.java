@@ -11,6 +11,7 @@ public final class StateTest {
         promise27DigestOfANewObject();
         promise27DigestOfAFullState();
         promise27DigestOfReplacedEntries();
+        promise27DigestOfQueuesAndPointer();
         promise27DigestChangesNothing();
         Expect.end();
     }
@@ -250,6 +251,21 @@ public final class StateTest {
         long[] due = joined(new long[9], row(2, 1, -1, 4, 0), row(3, 0, 0, first, 2, 1, 0, anew, 0, 2, 0, third, 2),
                 new long[129], row(0), row(0), row(0), new long[48], row(3));
         Expect.that("the new entry has the place of the old one", s.digest(), hash(due));
+    }
+
+    private static void promise27DigestOfQueuesAndPointer() {
+        CookieServer s = new CookieServer();
+        Expect.connect(s, 15, 7);
+        int[] sizes = {4, 9, 1, 7};
+        for (int size : sizes) {
+            s.request(15, size);
+        }
+        Expect.that("serve", s.serve(4), 1);
+        long[] ports = new long[128];
+        ports[127] = 1;
+        long[] due = joined(new long[9], row(0, 1, -1, 1, 0), row(0), row(1), ports, row(0), row(0), row(15), new long[45],
+                row(3, 9, 1, 7, 12, 4), row(3));
+        Expect.that("digest of a queue", s.digest(), hash(due));
     }
 
     private static void promise27DigestChangesNothing() {
