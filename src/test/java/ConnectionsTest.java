@@ -100,16 +100,8 @@ public final class ConnectionsTest {
         int second = s.open(0, 0, 1460);
         Expect.that("replaced in spite of the load", s.entryAge(0, 0), 0);
         Expect.that("entries", s.halfOpen(), 2);
-        Expect.that("the old cookie has no entry", s.accept(0, 0, first, solutionFailing(first, 2)), -6);
+        Expect.that("the old cookie has no entry", s.accept(0, 0, first, Expect.noSolution(first, 2)), -6);
         Expect.that("the new cookie has one", s.accept(0, 0, second, 0), 1460);
-    }
-
-    private static int solutionFailing(int cookie, int difficulty) {
-        int s = 0;
-        while (Expect.digestOf(0, cookie, s) % (1 << difficulty) == 0) {
-            s++;
-        }
-        return s;
     }
 
     private static void promise4OpenRefusals() {
@@ -140,7 +132,7 @@ public final class ConnectionsTest {
         Expect.flood(s, 6, 0, 30);
         s.rotateKey(2);
         s.rotateKey(3);
-        Expect.that("neither puzzle nor key is looked at", s.accept(5, 5, cookie, solutionFailing(cookie, 3)), 1024);
+        Expect.that("neither puzzle nor key is looked at", s.accept(5, 5, cookie, Expect.noSolution(cookie, 3)), 1024);
         Expect.that("no work", s.work(), 0);
         Expect.that("not remembered", s.remembered(), 0);
         Expect.that("entry removed", s.entryAge(5, 5), -1);
@@ -202,7 +194,7 @@ public final class ConnectionsTest {
         Expect.that("stamp 31 has age 1 in epoch 0", s.accept(0, 0, 31 * 32768 + Expect.digestOf(1, 0, 0, 31, 0), 0), 64);
         Expect.that("stamp 30 has age 2 in epoch 0", s.accept(0, 1, 30 * 32768 + Expect.digestOf(1, 0, 1, 30, 0), 0), -5);
         Expect.flood(s, 9, 0, 8);
-        Expect.that("stale comes before unsolved", s.accept(0, 1, 2 * 32768, solutionFailing(2 * 32768, 1)), -5);
+        Expect.that("stale comes before unsolved", s.accept(0, 1, 2 * 32768, Expect.noSolution(2 * 32768, 1)), -5);
     }
 
     private static void promise5AcceptUnsolved() {
@@ -211,10 +203,11 @@ public final class ConnectionsTest {
             Expect.flood(s, 15, 7, difficulty * 8);
             int cookie = Expect.cookie(1, 2, 3, 4, 0);
             if (difficulty > 0) {
-                Expect.that("unsolved", s.accept(2, 3, cookie, solutionFailing(cookie, difficulty)), -6);
+                Expect.that("unsolved", s.accept(2, 3, cookie, Expect.noSolution(cookie, difficulty)), -6);
                 Expect.that("work of the puzzle", s.work(), 1);
                 int forged = cookie ^ 1;
-                Expect.that("unsolved comes before forged", s.accept(2, 3, forged, solutionFailing(forged, difficulty)), -6);
+                int wrong = Expect.noSolution(forged, difficulty);
+                Expect.that("unsolved comes before forged", s.accept(2, 3, forged, wrong), -6);
                 Expect.that("work of the puzzle", s.work(), 2);
             }
             Expect.that("solved", s.accept(2, 3, cookie, s.solve(cookie, difficulty, 0)), 1024);
