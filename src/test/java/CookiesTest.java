@@ -123,7 +123,7 @@ public final class CookiesTest {
     private static void promise16CookieAge() {
         CookieServer s = new CookieServer();
         for (int epoch = 0; epoch < 70; epoch++) {
-            for (int stamp = 0; stamp < 32; stamp += 5) {
+            for (int stamp = 0; stamp < 32; stamp += 11) {
                 int due = (epoch - stamp + 64) % 32;
                 Expect.that("age of stamp " + stamp + " in epoch " + epoch, s.cookieAge(stamp * 32768), due);
                 Expect.that("and of its last cookie", s.cookieAge(stamp * 32768 + 32767), due);

@@ -281,7 +281,7 @@ public final class ServiceTest {
         Expect.that("the only one", s.shareBits(3), Float.floatToIntBits(1.0f));
         Expect.that("another one", s.shareBits(0), Float.floatToIntBits(0.0f));
         int[] sizes = {1, 2, 5, 7, 9, 3, 4, 8, 6};
-        for (int round = 0; round < 60; round++) {
+        for (int round = 0; round < 40; round++) {
             int client = round % 11 == 0 ? 0 : round % 3 == 0 ? 3 : 15;
             s.request(client, sizes[round % sizes.length]);
             s.serve(200);
