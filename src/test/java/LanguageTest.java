@@ -7,7 +7,6 @@ import java.nio.file.Files;
 import java.nio.file.Path;
 import java.util.Set;
 import java.util.TreeSet;
-import java.util.regex.Matcher;
 import java.util.regex.Pattern;
 
 /** The document's face, and those rules of LANGUAGE.md that can be seen in the source; run at the project's root. */
@@ -29,7 +28,6 @@ public final class LanguageTest {
         namesOfPublicMethodsAreNotUsedAgain();
         String source = withoutComments(Files.readString(Path.of("src/main/java/CookieServer.java")));
         forbiddenWords(source);
-        libraryCalls(source);
         shape(source);
         Expect.end();
     }
@@ -105,14 +103,6 @@ public final class LanguageTest {
         }
         Expect.holds("no lambda or method reference", !source.contains("->") && !source.contains("::"));
         Expect.holds("no text", !source.contains("\""));
-    }
-
-    private static void libraryCalls(String source) {
-        Set<String> allowed = Set.of("Math.min", "Math.floorMod", "System.arraycopy");
-        Matcher matcher = Pattern.compile("\\b(Math|System|Integer|Long|Arrays|String)\\.\\w+").matcher(source);
-        while (matcher.find()) {
-            Expect.holds("library call " + matcher.group(), allowed.contains(matcher.group()));
-        }
     }
 
     // Methods stand at one or two levels of four blanks each and end with a brace at their own level.
